@@ -9,6 +9,7 @@ public final class SwapAssize {
     private static final int MOST = 7;
     private static final int DAYS = 4;
     private static final int MOST_LEANING = 20;
+    private static final int MOST_GUILT = 20;
     private static final int MOST_HAD = 9999;
     private static final int DAYS_AHEAD = 60;
     private static final int PLACES = 7;
@@ -25,7 +26,9 @@ public final class SwapAssize {
     private Term lines = new Term();
     private Term draftLines = new Term();
     private final State now = new State();
+    /** Where days go by that are only asked about. */
     private final State ahead = new State();
+    private final State asked = new State();
     private final Sitting sitting = new Sitting();
     private final Planner planner = new Planner();
     private final Past past = new Past();
@@ -168,7 +171,7 @@ public final class SwapAssize {
         }
         past.keep(now);
         int before = now.up[trial];
-        now.up[trial] = day;
+        now.pleadFor(trial, day);
         return before;
     }
 
@@ -178,7 +181,7 @@ public final class SwapAssize {
         }
         past.keep(now);
         int before = now.leans[judge];
-        now.leans[judge] = leans;
+        now.leanTo(judge, leans);
         return before;
     }
 
@@ -261,7 +264,7 @@ public final class SwapAssize {
         if (!told.isCase(trial)) {
             return NONE;
         }
-        holdThrough(now.up[trial]);
+        sitting.holdThrough(told, now, ahead, now.up[trial]);
         return sitting.judgeAt(now, sitting.sourceOf(trial));
     }
 
@@ -269,14 +272,8 @@ public final class SwapAssize {
         if (!told.isCase(trial)) {
             return NONE;
         }
-        holdThrough(now.up[trial]);
+        sitting.holdThrough(told, now, ahead, now.up[trial]);
         return sitting.amountOf(trial);
-    }
-
-    /** Days go by, ahead of now, until the day has been held; the sitting is that day's then. */
-    private void holdThrough(int day) {
-        ahead.copyOf(now);
-        sitting.holdThrough(told, ahead, day);
     }
 
     public int best(int trial) {
@@ -286,9 +283,9 @@ public final class SwapAssize {
         int best = 0;
         int least = 0;
         for (int day = 0; day < DAYS; day++) {
-            ahead.copyOf(now);
-            ahead.up[trial] = day;
-            sitting.holdThrough(told, ahead, day);
+            asked.copyOf(now);
+            asked.pleadFor(trial, day);
+            sitting.holdThrough(told, asked, ahead, day);
             int amount = Math.max(sitting.amountOf(trial), 0);
             if (day == 0 || amount < least) {
                 best = day;
@@ -303,7 +300,7 @@ public final class SwapAssize {
             return OTHERS;
         }
         planner.work(told, now);
-        return what == NONE ? planner.least[0] : planner.dayOf(told, now, what);
+        return what == NONE ? planner.howMuch() : planner.dayOf(what);
     }
 
     // ---- deals of a day
@@ -320,7 +317,7 @@ public final class SwapAssize {
         if (!isDay(day)) {
             return NONE;
         }
-        holdThrough(day);
+        sitting.holdThrough(told, now, ahead, day);
         return sitting.ownBits();
     }
 
@@ -328,7 +325,7 @@ public final class SwapAssize {
         if (!isDay(day)) {
             return NONE;
         }
-        holdThrough(day);
+        sitting.holdThrough(told, now, ahead, day);
         return sitting.dealsUntilOwn();
     }
 
@@ -336,7 +333,7 @@ public final class SwapAssize {
         if (!isDay(day)) {
             return NONE;
         }
-        holdThrough(day);
+        sitting.holdThrough(told, now, ahead, day);
         return sitting.roundsOfCases();
     }
 
@@ -460,7 +457,7 @@ public final class SwapAssize {
         int bits = ALL_PLACES;
         for (int n = 0; n < seen.many; n++) {
             int got = placesByWhichGot(seen.trials[n], seen.judges[n]);
-            bits &= seen.got[n] ? got : ~got;
+            bits &= seen.isGot(n) ? got : ~got;
         }
         return bits;
     }
@@ -481,25 +478,25 @@ public final class SwapAssize {
     public int ask() {
         int left = shifts();
         int least = Integer.bitCount(left);
-        int asked = NONE;
+        int which = NONE;
         for (int trial = 0; trial < told.cases; trial++) {
             for (int judge = 0; judge < told.judges; judge++) {
                 int got = placesByWhichGot(trial, judge);
                 int greater = Math.max(Integer.bitCount(left & got), Integer.bitCount(left & ~got));
                 if (greater < least) {
                     least = greater;
-                    asked = 8 * trial + judge;
+                    which = 8 * trial + judge;
                 }
             }
         }
-        return asked;
+        return which;
     }
 
     public int chance(int trial, int much, int odds) {
         if (!told.isCase(trial) || !isWithin(much, 1, 40) || !isWithin(odds, 0, 10)) {
             return NONE;
         }
-        holdThrough(now.up[trial]);
+        sitting.holdThrough(told, now, ahead, now.up[trial]);
         int amount = sitting.amountOf(trial);
         if (amount == NONE) {
             return NONE;
@@ -521,9 +518,9 @@ public final class SwapAssize {
         int pair = NONE;
         for (int judge = 0; judge < told.judges; judge++) {
             for (int other = judge + 1; other < told.judges; other++) {
-                ahead.copyOf(now);
-                ahead.changeChairs(judge, other);
-                int together = fourDaysGive(ahead);
+                asked.copyOf(now);
+                asked.changeChairs(judge, other);
+                int together = fourDaysGive(asked);
                 if (together < least) {
                     least = together;
                     pair = 8 * judge + other;
@@ -648,11 +645,11 @@ public final class SwapAssize {
         switch (draw(5)) {
             case 0:
                 int trial = draw(told.cases);
-                ahead.up[trial] = draw(DAYS);
+                ahead.pleadFor(trial, draw(DAYS));
                 break;
             case 1:
                 int judge = draw(told.judges);
-                ahead.leans[judge] = draw(MOST_LEANING + 1);
+                ahead.leanTo(judge, draw(MOST_LEANING + 1));
                 break;
             case 2:
                 int one = draw(told.judges);
@@ -714,6 +711,18 @@ public final class SwapAssize {
             System.arraycopy(other.up, 0, up, 0, MOST);
             System.arraycopy(other.leans, 0, leans, 0, MOST);
             System.arraycopy(other.chairs, 0, chairs, 0, MOST);
+        }
+
+        void pleadFor(int trial, int day) {
+            if (isWithin(trial, 0, MOST - 1)) {
+                up[trial] = day;
+            }
+        }
+
+        void leanTo(int judge, int much) {
+            if (isWithin(judge, 0, MOST - 1)) {
+                leans[judge] = much;
+            }
         }
 
         int chairOf(int judge) {
@@ -978,13 +987,13 @@ public final class SwapAssize {
             state.dayIsOver();
         }
 
-        void holdThrough(Roll roll, State state, int day) {
-            for (int n = 0; n < DAYS; n++) {
-                int held = state.next;
-                holdNext(roll, state);
-                if (held == day) {
-                    return;
-                }
+        /** Days go by, ahead of a state, until the day has been held: this is that day's sitting then. */
+        void holdThrough(Roll roll, State state, State ahead, int day) {
+            ahead.copyOf(state);
+            boolean held = false;
+            for (int n = 0; n < DAYS && !held; n++) {
+                held = ahead.next == day;
+                holdNext(roll, ahead);
             }
         }
 
@@ -1147,66 +1156,60 @@ public final class SwapAssize {
     }
 
     /**
-     * PLAN. What a CASE is given depends on how many CASES ahead of it have its day: a state is how
-     * many each day has, three bits a day, and the CASE that is next is as many as these together.
+     * PLAN. What a CASE is given depends on how many CASES ahead of it have its day: these numbers,
+     * three bits a day, are all that the CASES behind must know, and together they tell which CASE
+     * is next. A CASE under seven others at most makes no day's bits run over.
      */
     private static final class Planner {
-        private static final int STATES = 1 << 3 * DAYS;
+        private static final int STEPS = 1 << 3 * DAYS;
 
-        final int[] least = new int[STATES];
+        /** What the CASES behind are given at least, times 4, and the first day by which they are. */
+        private final int[] least = new int[STEPS];
+        /** What the JUDGE in a chair would give a CASE, 8 * the CASE + the chair; 0 where none sits. */
+        private final int[] amounts = new int[8 * MOST];
 
         void work(Roll roll, State state) {
-            for (int days = STATES - 1; days >= 0; days--) {
-                int trial = casesIn(days);
-                least[days] = 0;
-                if (trial < roll.cases) {
-                    least[days] = leastBy(roll, state, days, firstDay(roll, state, days));
+            setAmounts(roll, state);
+            int cases = Math.min(roll.cases, MOST);
+            for (int days = cases << 3 * (DAYS - 1); days >= 0; days--) {
+                int trial = (days & 7) + (days >> 3 & 7) + (days >> 6 & 7) + (days >> 9 & 7);
+                least[days] = trial < cases ? leastFrom(days, trial) : 0;
+            }
+        }
+
+        private void setAmounts(Roll roll, State state) {
+            for (int trial = 0; trial < MOST; trial++) {
+                for (int chair = 0; chair < MOST; chair++) {
+                    boolean sat = chair < roll.judges;
+                    amounts[8 * trial + chair] = sat ? roll.verdict(state, state.chairs[chair], trial) : 0;
                 }
             }
         }
 
-        int dayOf(Roll roll, State state, int trial) {
+        private int leastFrom(int days, int trial) {
+            int found = Integer.MAX_VALUE;
+            for (int day = 0; day < DAYS; day++) {
+                int amount = amounts[8 * trial + (days >> 3 * day & 7)];
+                int behind = least[withOneMore(days, day)] / DAYS;
+                found = Math.min(found, (amount + behind) * DAYS + day);
+            }
+            return found;
+        }
+
+        private static int withOneMore(int days, int day) {
+            return days + (1 << 3 * day) & STEPS - 1;
+        }
+
+        int howMuch() {
+            return least[0] / DAYS;
+        }
+
+        int dayOf(int trial) {
             int days = 0;
             for (int n = 0; n < trial; n++) {
-                days = withOneMore(days, firstDay(roll, state, days));
+                days = withOneMore(days, least[days] % DAYS);
             }
-            return firstDay(roll, state, days);
-        }
-
-        private static int casesIn(int days) {
-            int together = 0;
-            for (int day = 0; day < DAYS; day++) {
-                together += casesOn(days, day);
-            }
-            return together;
-        }
-
-        private static int casesOn(int days, int day) {
-            return days >> 3 * day & 7;
-        }
-
-        /** Under MOST CASES on a day, which holds while one is left, the next day's bits stay. */
-        private static int withOneMore(int days, int day) {
-            return days + (1 << 3 * day) & STATES - 1;
-        }
-
-        private int firstDay(Roll roll, State state, int days) {
-            int first = 0;
-            for (int day = 1; day < DAYS; day++) {
-                if (leastBy(roll, state, days, day) < leastBy(roll, state, days, first)) {
-                    first = day;
-                }
-            }
-            return first;
-        }
-
-        private int leastBy(Roll roll, State state, int days, int day) {
-            int chair = casesOn(days, day);
-            int amount = 0;
-            if (chair < roll.judges && chair < MOST) {
-                amount = roll.verdict(state, state.chairs[chair], casesIn(days));
-            }
-            return amount + least[withOneMore(days, day)];
+            return least[days] % DAYS;
         }
     }
 
@@ -1247,7 +1250,8 @@ public final class SwapAssize {
         int many;
         final int[] trials = new int[KEPT];
         final int[] judges = new int[KEPT];
-        final boolean[] got = new boolean[KEPT];
+        /** Bits. */
+        private int got;
 
         boolean add(int trial, int judge, boolean so) {
             if (many >= KEPT) {
@@ -1255,16 +1259,20 @@ public final class SwapAssize {
             }
             trials[many] = trial;
             judges[many] = judge;
-            got[many] = so;
+            got = so ? got | 1 << many : got & ~(1 << many);
             many++;
             return true;
         }
 
+        boolean isGot(int n) {
+            return (got >> n & 1) == 1;
+        }
+
         void copyOf(Seen other) {
             many = other.many;
+            got = other.got;
             System.arraycopy(other.trials, 0, trials, 0, KEPT);
             System.arraycopy(other.judges, 0, judges, 0, KEPT);
-            System.arraycopy(other.got, 0, got, 0, KEPT);
         }
     }
 
@@ -1294,9 +1302,9 @@ public final class SwapAssize {
             int first = firsts[line];
             int second = seconds[line];
             if (words[line] == Lexer.PLEAD) {
-                state.up[first] = second;
+                state.pleadFor(first, second);
             } else if (words[line] == Lexer.LEAN) {
-                state.leans[first] = second;
+                state.leanTo(first, second);
             } else {
                 state.changeChairs(first, second);
             }
@@ -1330,6 +1338,12 @@ public final class SwapAssize {
         static final int MANY = 147;
         static final int TODAY = 148;
         static final int GRIEF = 149;
+        /** Kinds of FAULTS. */
+        static final int OUT_OF_PLACE = 1;
+        static final int UNKNOWN = 2;
+        static final int TOLD_ALREADY = 3;
+        static final int WRONG_NUMBER = 4;
+        static final int TOO_MANY = 5;
         private static final int LONGEST_WORD = 8;
         private static final int LONGEST_NUMBER = 4;
         /** The words from JUDGE to GRIEF, a byte a letter, as words are held. */
@@ -1362,9 +1376,10 @@ public final class SwapAssize {
         private final byte[] signs = new byte[TAPE_LENGTH];
         private int at;
         int kind;
-        int place;
+        private int place;
         int number;
         long word;
+        int fault;
 
         void put(int sign) {
             boolean is = sign == 10 || sign >= 32 && sign <= 126;
@@ -1376,7 +1391,22 @@ public final class SwapAssize {
 
         void start() {
             at = 0;
+            fault = 0;
             step();
+        }
+
+        boolean take(int wanted) {
+            if (kind != wanted) {
+                return wrong(OUT_OF_PLACE);
+            }
+            step();
+            return true;
+        }
+
+        /** False, so that what finds the token wrong can answer by it. */
+        boolean wrong(int faultKind) {
+            fault = faultKind + 16 * place;
+            return false;
         }
 
         void step() {
@@ -1441,17 +1471,10 @@ public final class SwapAssize {
         }
     }
 
-    /** Reads the TAPE; the first token that is wrong ends it, and each test of one has its least kind first. */
+    /** Reads the TAPE; the first wrong token ends it, and of each token the least FAULT is looked for first. */
     private static final class Reader {
-        private static final int OUT_OF_PLACE = 1;
-        private static final int UNKNOWN = 2;
-        private static final int TOLD_ALREADY = 3;
-        private static final int WRONG_NUMBER = 4;
-        private static final int TOO_MANY = 5;
-
         private final Lexer lexer;
         private final LawReader lawReader;
-        private int fault;
         /** What was taken last. */
         private long name;
         private int number;
@@ -1466,55 +1489,62 @@ public final class SwapAssize {
 
         int readAssize(Roll roll) {
             roll.clear();
-            fault = 0;
             lawTold = false;
             pairsTold = 0;
             lexer.start();
-            for (int n = 0; n <= TAPE_LENGTH && fault == 0 && lexer.kind != Lexer.END; n++) {
-                readAssizeLine(roll);
+            boolean right = true;
+            for (int n = 0; n <= TAPE_LENGTH && right && lexer.kind != Lexer.END; n++) {
+                switch (lexer.kind) {
+                    case Lexer.JUDGE:
+                        right = readJudge(roll);
+                        break;
+                    case Lexer.CASE:
+                        right = readCase(roll);
+                        break;
+                    case Lexer.CHAIRS:
+                        right = readChairs(roll);
+                        break;
+                    case Lexer.DEALS:
+                        right = readLaw(roll.law);
+                        break;
+                    default:
+                        right = lexer.wrong(Lexer.OUT_OF_PLACE);
+                        break;
+                }
             }
-            return fault;
-        }
-
-        private boolean readAssizeLine(Roll roll) {
-            switch (lexer.kind) {
-                case Lexer.JUDGE:
-                    return roll.judges < MOST ? readJudge(roll) : wrong(TOO_MANY);
-                case Lexer.CASE:
-                    return roll.cases < MOST ? readCase(roll) : wrong(TOO_MANY);
-                case Lexer.CHAIRS:
-                    return readChairs(roll);
-                case Lexer.DEALS:
-                    return lawTold ? wrong(TOLD_ALREADY) : readLaw(roll.law);
-                default:
-                    return wrong(OUT_OF_PLACE);
-            }
+            return lexer.fault;
         }
 
         private boolean readJudge(Roll roll) {
+            if (roll.judges >= MOST) {
+                return lexer.wrong(Lexer.TOO_MANY);
+            }
             lexer.step();
             if (!takeNewName(roll)) {
                 return false;
             }
-            int kind = lexer.kind - Lexer.PLAIN;
-            if (lexer.kind < Lexer.PLAIN || lexer.kind > Lexer.SAME) {
-                return wrong(OUT_OF_PLACE);
+            int kind = lexer.kind;
+            if (kind < Lexer.PLAIN || kind > Lexer.SAME) {
+                return lexer.wrong(Lexer.OUT_OF_PLACE);
             }
             lexer.step();
-            if (!take(Lexer.LEANS) || !takeNumber(MOST_LEANING) || !take(';')) {
+            if (!lexer.take(Lexer.LEANS) || !takeNumber(MOST_LEANING) || !lexer.take(';')) {
                 return false;
             }
-            roll.addJudge(name, kind, number);
+            roll.addJudge(name, kind - Lexer.PLAIN, number);
             return true;
         }
 
         private boolean readCase(Roll roll) {
+            if (roll.cases >= MOST) {
+                return lexer.wrong(Lexer.TOO_MANY);
+            }
             lexer.step();
-            if (!takeNewName(roll) || !take(Lexer.GUILT) || !takeNumber(20)) {
+            if (!takeNewName(roll) || !lexer.take(Lexer.GUILT) || !takeNumber(MOST_GUILT)) {
                 return false;
             }
             int guilt = number;
-            if (!take(Lexer.ON) || !takeNumber(DAYS - 1) || !take(';')) {
+            if (!lexer.take(Lexer.ON) || !takeNumber(DAYS - 1) || !lexer.take(';')) {
                 return false;
             }
             roll.addCase(name, guilt, number);
@@ -1523,20 +1553,21 @@ public final class SwapAssize {
 
         private boolean readChairs(Roll roll) {
             lexer.step();
-            if (!takeJudge(roll)) {
+            if (!findJudge(roll)) {
                 return false;
             }
             int judge = number;
-            if (!isOfJudge(roll)) {
+            lexer.step();
+            if (!findJudge(roll)) {
                 return false;
             }
-            int other = roll.judgeNamed(lexer.word);
+            int other = number;
             long pair = 1L << 8 * Math.min(judge, other) + Math.max(judge, other);
             if (other == judge || (pairsTold & pair) != 0) {
-                return wrong(TOLD_ALREADY);
+                return lexer.wrong(Lexer.TOLD_ALREADY);
             }
             lexer.step();
-            if (!take(';')) {
+            if (!lexer.take(';')) {
                 return false;
             }
             pairsTold |= pair;
@@ -1545,43 +1576,46 @@ public final class SwapAssize {
         }
 
         private boolean readLaw(Law law) {
-            lexer.step();
-            fault = lawReader.read(law);
+            if (lawTold) {
+                return lexer.wrong(Lexer.TOLD_ALREADY);
+            }
             lawTold = true;
-            return fault == 0 && take(';');
+            lexer.step();
+            return lawReader.read(law) && lexer.take(';');
         }
 
         int readTerm(Term term, Roll roll) {
             term.many = 0;
-            fault = 0;
             lexer.start();
-            for (int n = 0; n <= TAPE_LENGTH && fault == 0 && lexer.kind != Lexer.END; n++) {
-                readTermLine(term, roll);
+            boolean right = true;
+            for (int n = 0; n <= TAPE_LENGTH && right && lexer.kind != Lexer.END; n++) {
+                right = readTermLine(term, roll);
             }
-            return fault;
+            return lexer.fault;
         }
 
         private boolean readTermLine(Term term, Roll roll) {
             int word = lexer.kind;
             if (word < Lexer.DAY || word > Lexer.CHANGE) {
-                return wrong(OUT_OF_PLACE);
+                return lexer.wrong(Lexer.OUT_OF_PLACE);
             }
             if (term.many >= Term.KEPT) {
-                return wrong(TOO_MANY);
+                return lexer.wrong(Lexer.TOO_MANY);
             }
             lexer.step();
             int first = 0;
             number = 0;
             if (word != Lexer.DAY) {
-                if (!(word == Lexer.PLEAD ? takeCase(roll) : takeJudge(roll))) {
+                if (!(word == Lexer.PLEAD ? findCase(roll) : findJudge(roll))) {
                     return false;
                 }
                 first = number;
+                lexer.step();
                 if (!takeSecond(word, first, roll)) {
                     return false;
                 }
             }
-            if (!take(';')) {
+            if (!lexer.take(';')) {
                 return false;
             }
             term.add(word, first, number);
@@ -1596,15 +1630,11 @@ public final class SwapAssize {
             if (word == Lexer.LEAN) {
                 return takeNumber(MOST_LEANING);
             }
-            if (!isOfJudge(roll)) {
+            if (!findJudge(roll)) {
                 return false;
             }
-            return roll.judgeNamed(lexer.word) == first ? wrong(TOLD_ALREADY) : takeJudge(roll);
-        }
-
-        private boolean take(int kind) {
-            if (lexer.kind != kind) {
-                return wrong(OUT_OF_PLACE);
+            if (number == first) {
+                return lexer.wrong(Lexer.TOLD_ALREADY);
             }
             lexer.step();
             return true;
@@ -1612,10 +1642,10 @@ public final class SwapAssize {
 
         private boolean takeNumber(int most) {
             if (lexer.kind != Lexer.NUMBER) {
-                return wrong(OUT_OF_PLACE);
+                return lexer.wrong(Lexer.OUT_OF_PLACE);
             }
             if (lexer.number > most) {
-                return wrong(WRONG_NUMBER);
+                return lexer.wrong(Lexer.WRONG_NUMBER);
             }
             number = lexer.number;
             lexer.step();
@@ -1624,68 +1654,46 @@ public final class SwapAssize {
 
         private boolean takeNewName(Roll roll) {
             if (!lexer.isName()) {
-                return wrong(OUT_OF_PLACE);
+                return lexer.wrong(Lexer.OUT_OF_PLACE);
             }
             name = lexer.word;
             if (roll.judgeNamed(name) != NONE || roll.caseNamed(name) != NONE) {
-                return wrong(TOLD_ALREADY);
+                return lexer.wrong(Lexer.TOLD_ALREADY);
             }
             lexer.step();
             return true;
         }
 
-        private boolean isOfJudge(Roll roll) {
+        /** The token stays, as a second JUDGE may still be wrong by being who he is. */
+        private boolean findJudge(Roll roll) {
             if (!lexer.isName()) {
-                return wrong(OUT_OF_PLACE);
-            }
-            return roll.judgeNamed(lexer.word) != NONE || wrong(UNKNOWN);
-        }
-
-        private boolean takeJudge(Roll roll) {
-            if (!isOfJudge(roll)) {
-                return false;
+                return lexer.wrong(Lexer.OUT_OF_PLACE);
             }
             number = roll.judgeNamed(lexer.word);
-            lexer.step();
-            return true;
+            return number != NONE || lexer.wrong(Lexer.UNKNOWN);
         }
 
-        private boolean takeCase(Roll roll) {
+        private boolean findCase(Roll roll) {
             if (!lexer.isName()) {
-                return wrong(OUT_OF_PLACE);
+                return lexer.wrong(Lexer.OUT_OF_PLACE);
             }
             number = roll.caseNamed(lexer.word);
-            if (number == NONE) {
-                return wrong(UNKNOWN);
-            }
-            lexer.step();
-            return true;
-        }
-
-        /** False, so that what finds a token wrong can answer by it. */
-        private boolean wrong(int kind) {
-            fault = kind + 16 * lexer.place;
-            return false;
+            return number != NONE || lexer.wrong(Lexer.UNKNOWN);
         }
     }
 
     /** Reads an E; a depth is how many of not and ( ) one is within. */
     private static final class LawReader {
         private static final int DEEPEST = 5;
-        private static final int OUT_OF_PLACE = 1;
-        private static final int TOO_DEEP = 5;
 
         private final Lexer lexer;
-        private int fault;
 
         LawReader(Lexer tape) {
             lexer = tape;
         }
 
-        int read(Law law) {
-            fault = 0;
-            readE(law, 0);
-            return fault;
+        boolean read(Law law) {
+            return readE(law, 0);
         }
 
         private boolean readE(Law law, int depth) {
@@ -1700,16 +1708,13 @@ public final class SwapAssize {
         }
 
         private boolean readTest(Law law, int depth) {
-            if (!readSum(law, depth)) {
-                return false;
-            }
-            if (!isJoin('<', '=')) {
-                return true;
-            }
-            int join = lexer.kind == '<' ? Law.LESS : Law.EQUAL;
-            lexer.step();
             boolean right = readSum(law, depth);
-            law.add(join);
+            if (right && isJoin('<', '=')) {
+                int join = lexer.kind == '<' ? Law.LESS : Law.EQUAL;
+                lexer.step();
+                right = readSum(law, depth);
+                law.add(join);
+            }
             return right;
         }
 
@@ -1738,10 +1743,10 @@ public final class SwapAssize {
             int kind = lexer.kind;
             boolean plain = kind == Lexer.NUMBER || lexer.isFact();
             if (!plain && kind != Lexer.NOT && kind != '(') {
-                return wrong(OUT_OF_PLACE);
+                return lexer.wrong(Lexer.OUT_OF_PLACE);
             }
             if (depth >= DEEPEST) {
-                return wrong(TOO_DEEP);
+                return lexer.wrong(Lexer.TOO_MANY);
             }
             if (plain) {
                 law.add(kind == Lexer.NUMBER ? lexer.number : Law.NTH - (kind - Lexer.NTH));
@@ -1749,29 +1754,16 @@ public final class SwapAssize {
                 return true;
             }
             lexer.step();
-            if (kind == Lexer.NOT) {
-                boolean right = readPart(law, depth + 1);
-                law.add(Law.NOT);
-                return right;
+            if (kind == '(') {
+                return readE(law, depth + 1) && lexer.take(')');
             }
-            return readE(law, depth + 1) && closes();
-        }
-
-        private boolean closes() {
-            if (lexer.kind != ')') {
-                return wrong(OUT_OF_PLACE);
-            }
-            lexer.step();
-            return true;
+            boolean right = readPart(law, depth + 1);
+            law.add(Law.NOT);
+            return right;
         }
 
         private boolean isJoin(int one, int other) {
             return lexer.kind == one || lexer.kind == other;
-        }
-
-        private boolean wrong(int kind) {
-            fault = kind + 16 * lexer.place;
-            return false;
         }
     }
 }
