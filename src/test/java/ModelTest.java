@@ -16,10 +16,10 @@ public final class ModelTest {
     }
 
     public static void main(String[] args) {
-        for (int run = 0; run < 700 && Check.wrongOnes() == 0; run++) {
+        for (int run = 0; run < 250 && Check.wrongOnes() == 0; run++) {
             new ModelTest(run).run();
         }
-        for (int run = 0; run < 400 && Check.wrongOnes() == 0; run++) {
+        for (int run = 0; run < 200 && Check.wrongOnes() == 0; run++) {
             new ModelTest(50000 + run).readOnly();
         }
         Check.end();

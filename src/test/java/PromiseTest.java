@@ -158,6 +158,29 @@ public final class PromiseTest {
         Check.due("assize: empty", x.count(0) + x.count(1), 0);
         x = Check.of(even(7) + cases(1, 1, 2, 3, 4, 5, 6, 7));
         Check.due("assize: seven", x.count(0) * 8 + x.count(1), 63);
+        nothingIsLeftOver();
+    }
+
+    /** Neither of the last ASSIZE nor of the one before it. */
+    private static void nothingIsLeftOver() {
+        SwapAssize x = new SwapAssize();
+        for (int n = 0; n < 3; n++) {
+            Check.due("assize: told anew", Check.assize(x, even(3) + cases(0, 1, 2, 3) + "chairs ja jb;chairs jb jc;deals 2;"), 0);
+            Check.due("assize: chairs", x.judge(0, 2) + 10 * x.judge(1, 2) + 100 * x.judge(2, 2), 21);
+            Check.due("assize: deals", x.gets(0), 2);
+        }
+        Check.assize(x, "chairs ja jb;");
+        for (int n = 0; n < 3; n++) {
+            for (int mark = 0; mark < 4; mark++) {
+                x.mark(mark, false);
+            }
+            Check.due("assize: plain", Check.assize(x, even(3) + cases(0, 1, 2, 3)), 0);
+            Check.due("assize: chairs by numbers", x.judge(0, 2) + 10 * x.judge(1, 2) + 100 * x.judge(2, 2), 210);
+            Check.due("assize: deals 1", x.gets(0), 3);
+            for (int mark = 0; mark < 4; mark++) {
+                Check.due("assize: mark " + mark, x.mark(mark, true), false);
+            }
+        }
     }
 
     private static void assizeFault(String text, int kind, String from) {
@@ -216,6 +239,15 @@ public final class PromiseTest {
         assizeFault(cases(0, 1, 2, 3, 4, 5, 6, 7) + "case", 5, "case");
         assizeFault("deals 1;deals", 3, "deals");
         assizeFault(even(7) + "judgee", 1, "judgee");
+        assizeFault(two + "chairs a b judge e plain leans 1;", 1, "judge");
+        StringBuilder pairs = new StringBuilder(even(7));
+        for (char one = 'a'; one <= 'g'; one++) {
+            for (char other = 'g'; other > one; other--) {
+                pairs.append("chairs j").append(one).append(" j").append(other).append(";");
+            }
+        }
+        Check.due("all pairs of seven", Check.assize(new SwapAssize(), pairs.toString()), 0);
+        assizeFault(pairs + "chairs jg jd;", 3, "jd");
     }
 
     private static void lawFaults() {
@@ -360,6 +392,7 @@ public final class PromiseTest {
         termFault("judge", 1, "judge");
         termFault("deals 1;", 1, "deals");
         termFault("leans ann 1;", 1, "leans");
+        termFault("plain ann 1;", 1, "plain");
         termFault("day;duck", 1, "duck");
         termFault("plead ann 9;", 2, "ann");
         termFault("plead nth 9;", 2, "nth");
@@ -422,6 +455,22 @@ public final class PromiseTest {
         Check.due("day: all stays with it", x.trial(2, 2), 0);
         Check.due("day: first", x.trial(0, 2), 6);
         Check.due("day: second", x.trial(1, 2), 5);
+        hadAtMost();
+    }
+
+    /** More calls than an object is used for, as so much can hardly be had by fewer. */
+    private static void hadAtMost() {
+        SwapAssize x = Check.of("judge ja stern leans 20;judge jb stern leans 20;case a guilt 20 on 0;case b guilt 20 on 0;case c guilt 1 on 1;");
+        for (int n = 0; n < 4 * 285; n++) {
+            x.day();
+        }
+        Check.due("day: 285 times 35", x.trial(0, 2), 9975);
+        Check.due("later: 9999 at most", x.later(0, 1), 9999);
+        Check.due("reaches: 9999", x.reaches(1, 9999), 1);
+        x.day();
+        Check.due("day: 9999 at most", x.trial(0, 2), 9999);
+        x.day();
+        Check.due("day: of each, not together", x.count(4), 2 * 9999 + 286 * 16);
     }
 
     private static void plead() {
@@ -436,6 +485,13 @@ public final class PromiseTest {
         Check.due("plead for -1", x.plead(0, -1), NONE);
         Check.due("plead: others are nothing", x.count(8), 3);
         Check.due("plead: its day", x.trial(5, 1), 3);
+        x = Check.of(even(7) + cases(0, 1, 2, 3, 4, 5, 6, 7));
+        Check.due("plead: the seventh", x.plead(6, 2), 0);
+        Check.due("plead: the seventh's day", x.trial(6, 1), 2);
+        Check.due("lean: the seventh", x.lean(6, 2), 10);
+        Check.due("lean: the seventh's", x.judge(6, 1), 2);
+        Check.due("change: the seventh", x.change(6, 0), true);
+        Check.due("change: the seventh's", x.judge(6, 2), 0);
     }
 
     private static void lean() {
@@ -522,6 +578,12 @@ public final class PromiseTest {
         Check.due("judged: 20 is so much", x.judged(0), 1);
         Check.due("judged: own beside another", x.judged(1), 5);
         Check.due("judged: together", x.judged(2), 64);
+        Check.term(x, "plead b 0;plead a 1;day;day;");
+        Check.due("judged: the last of two gets 20", x.judged(0), 3);
+        Check.term(x, "plead a 1;lean ja 11;change ja jb;day;day;");
+        Check.due("judged: of three two are heard", x.judged(0), NONE);
+        Check.term(x, "plead a 1;lean ja 11;day;day;");
+        Check.due("judged: the first of two is given 20", x.judged(0), 3);
         Check.term(x, "day;");
         Check.due("judged: 19 is not so much", x.judged(0), NONE);
         Check.due("judged: its own alone", x.judged(1), NONE);
@@ -748,6 +810,8 @@ public final class PromiseTest {
         Check.due("loops: three", x.loops(1), 1);
         Check.due("back: none", x.back(2), NONE);
         Check.due("loops: none", x.loops(2), 0);
+        Check.due("loops: own again", x.loops(0), 4);
+        Check.due("loops: three again", x.loops(1), 1);
         Check.due("back(4)", x.back(4), NONE);
         Check.due("back(-1)", x.back(-1), NONE);
         Check.due("loops(4)", x.loops(4), NONE);
@@ -781,6 +845,15 @@ public final class PromiseTest {
         x.day();
         Check.due("uneven: both 5", x.uneven(), 0);
         Check.due("lucky: the first of both", x.lucky(), 0);
+        x = Check.of(even(2) + cases(0, 5, 9));
+        x.day();
+        Check.due("uneven: the first had more", x.uneven(), 4);
+        x.plead(0, 1);
+        x.day();
+        Check.due("uneven: the first had 14", x.uneven(), 9);
+        x = Check.of(even(1) + cases(0, 5));
+        x.day();
+        Check.due("uneven: of one", x.uneven(), 0);
     }
 
     private static void see() {
@@ -840,6 +913,8 @@ public final class PromiseTest {
         Check.due("ask: 1 of 6", x.ask(), 1);
         x = Check.of(even(2) + cases(2, 1, 1) + cases(3, 1));
         Check.due("ask: 4 and 3", x.ask(), 0);
+        x = Check.of(even(2) + cases(2, 1) + "case d guilt 1 on 0;case e guilt 2 on 1;case f guilt 2 on 1;");
+        Check.due("ask: the first two part none", x.ask(), 8 * 2);
     }
 
     private static void strange() {
@@ -928,6 +1003,8 @@ public final class PromiseTest {
         // ahead of day 1 grief is 3
         x = Check.of(even(2) + cases(0, 2, 1) + cases(1, 4, 5) + cases(2, 7, 6) + "deals grief;");
         Check.due("spared: by grief then", x.spared(), 8);
+        x = Check.of(even(3) + cases(0, 3, 2, 1));
+        Check.due("spared: the first, not the second", x.spared(), 1);
     }
 
     private static void chance() {
@@ -1015,6 +1092,13 @@ public final class PromiseTest {
         x.day();
         Check.due("terms: from now on, by these", x.terms(1, 3, 0), 27);
         Check.due("terms: at last", x.terms(1, 3, 1), 20);
+        x = Check.of(BASE);
+        // seed 0: 0 21468 9988, 22117 3498 16927: duck to 0, cal and dot; seed 3: 17747 7107 10365, 8312 20622 15796, 4173
+        Check.due("terms: seed 0", x.terms(0, 2, 0), 61);
+        Check.due("terms: dot and bea", x.terms(3, 1, 0), 26);
+        Check.due("terms: cal and ann", x.terms(3, 2, 0), 45);
+        Check.due("terms: then nothing", x.terms(3, 3, 0), 50);
+        Check.due("terms: chairs are as ahead", x.hears(1) + 10 * x.hears(0), 1);
         Check.due("terms: seed 9999", x.terms(9999, 99, 2) >= 0, true);
         Check.due("terms: seed 10000", x.terms(10000, 1, 0), -2);
         Check.due("terms: seed -1", x.terms(-1, 1, 0), -2);
@@ -1022,6 +1106,9 @@ public final class PromiseTest {
         Check.due("terms: 100 days", x.terms(0, 100, 0), -2);
         Check.due("terms: what 3", x.terms(0, 1, 3), -2);
         Check.due("terms: what -1", x.terms(0, 1, -1), -2);
+        x = Check.of(even(1) + cases(0, 5));
+        Check.due("terms: one of each pleads for 3", x.terms(1, 4, 0), 10);
+        Check.due("terms: the most is the first's", x.terms(1, 4, 1), 10);
         x = Check.of("judge a plain leans 3;judge b plain leans 3;");
         Check.due("terms: no cases, much", x.terms(1, 99, 0), 0);
         Check.due("terms: no cases, most", x.terms(1, 99, 1), 0);
@@ -1074,6 +1161,15 @@ public final class PromiseTest {
         x.day();
         x.mark(3, true);
         Check.due("mark: laid over, day", x.count(2), 2);
+        x = Check.of(BASE);
+        x.mark(0, false);
+        x.see(0, 2, true);
+        x.mark(1, false);
+        x.mark(0, true);
+        x.see(1, 2, false);
+        Check.due("mark: another is seen", x.shifts(), 127 - 4 - 32);
+        x.mark(1, true);
+        Check.due("mark: what was seen first", x.shifts(), 2 + 16);
         Check.due("mark: of nothing", new SwapAssize().mark(0, false), true);
     }
 
