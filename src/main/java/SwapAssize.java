@@ -867,6 +867,10 @@ public final class SwapAssize {
 
     /** The E of deals, operands ahead of what joins them, so that telling needs no recursion. */
     private static final class Law {
+        /** The facts, in the order of their words; what is left of them is grief. */
+        static final int NTH = -1;
+        static final int MANY = -2;
+        static final int TODAY = -3;
         static final int NOT = -10;
         static final int AND = -11;
         static final int OR = -12;
@@ -875,10 +879,6 @@ public final class SwapAssize {
         static final int PLUS = -15;
         static final int MINUS = -16;
         static final int TIMES = -17;
-        static final int NTH = -1;
-        static final int MANY = -2;
-        static final int TODAY = -3;
-        static final int GRIEF = -4;
         /** Four operands can wait at each of the five levels that parts may lie at. */
         static final int WAITING = 32;
 
@@ -1334,9 +1334,8 @@ public final class SwapAssize {
         static final int NOT = 143;
         static final int AND = 144;
         static final int OR = 145;
+        /** The first and the last one of the facts. */
         static final int NTH = 146;
-        static final int MANY = 147;
-        static final int TODAY = 148;
         static final int GRIEF = 149;
         /** Kinds of FAULTS. */
         static final int OUT_OF_PLACE = 1;

@@ -671,6 +671,8 @@ public final class PromiseTest {
         x = Check.of(even(1) + "case a guilt 3 on 1;case b guilt 2 on 0;");
         Check.due("best: not heard is 0", x.best(1), 1);
         Check.due("best: heard alone", x.best(0), 0);
+        x = Check.of(even(1) + "case a guilt 3 on 1;case b guilt 1 on 0;");
+        Check.due("best: 0 is less than 1", x.best(1), 1);
         x = Check.of(cases(0, 1, 2));
         Check.due("best: no judges", x.best(1), 0);
         // by 0 places a keeps 5 on day 0; from day 1 on, day 0's grief 3 makes it b's 3 where b is
@@ -1166,8 +1168,8 @@ public final class PromiseTest {
         x.see(0, 2, true);
         x.mark(1, false);
         x.mark(0, true);
-        x.see(1, 2, false);
-        Check.due("mark: another is seen", x.shifts(), 127 - 4 - 32);
+        x.see(1, 0, false);
+        Check.due("mark: another is seen", x.shifts(), 127 - 2 - 16);
         x.mark(1, true);
         Check.due("mark: what was seen first", x.shifts(), 2 + 16);
         Check.due("mark: of nothing", new SwapAssize().mark(0, false), true);
