@@ -13,24 +13,6 @@ public final class PromiseTest {
         + " judge dot same leans 0 ; case duck guilt 4 on 0 ; case libel guilt 20 on 0 ; case drain guilt 10 on 0 ;"
         + " case boot guilt 8 on 1 ; case hat guilt 15 on 1 ; case pie guilt 0 on 2 ;";
 
-    /** Judges who give a case its guilt. */
-    private static String even(int judges) {
-        StringBuilder text = new StringBuilder();
-        for (int n = 0; n < judges; n++) {
-            text.append("judge j").append((char) ('a' + n)).append(" plain leans 10;");
-        }
-        return text.toString();
-    }
-
-    private static String cases(int day, int... guilts) {
-        StringBuilder text = new StringBuilder();
-        for (int n = 0; n < guilts.length; n++) {
-            text.append("case c").append((char) ('a' + n)).append((char) ('e' + day));
-            text.append(" guilt ").append(guilts[n]).append(" on ").append(day).append(";");
-        }
-        return text.toString();
-    }
-
     public static void main(String[] args) {
         aNewObject();
         feed();
@@ -156,7 +138,7 @@ public final class PromiseTest {
         Check.due("assize: no mark", x.mark(2, true), false);
         Check.due("assize: an empty one", x.assize(), 0);
         Check.due("assize: empty", x.count(0) + x.count(1), 0);
-        x = Check.of(even(7) + cases(1, 1, 2, 3, 4, 5, 6, 7));
+        x = Check.of(Texts.even(7) + Texts.cases(1, 1, 2, 3, 4, 5, 6, 7));
         Check.due("assize: seven", x.count(0) * 8 + x.count(1), 63);
         nothingIsLeftOver();
     }
@@ -165,7 +147,7 @@ public final class PromiseTest {
     private static void nothingIsLeftOver() {
         SwapAssize x = new SwapAssize();
         for (int n = 0; n < 3; n++) {
-            Check.due("assize: told anew", Check.assize(x, even(3) + cases(0, 1, 2, 3) + "chairs ja jb;chairs jb jc;deals 2;"), 0);
+            Check.due("assize: told anew", Check.assize(x, Texts.even(3) + Texts.cases(0, 1, 2, 3) + "chairs ja jb;chairs jb jc;deals 2;"), 0);
             Check.due("assize: chairs", x.judge(0, 2) + 10 * x.judge(1, 2) + 100 * x.judge(2, 2), 21);
             Check.due("assize: deals", x.gets(0), 2);
         }
@@ -174,7 +156,7 @@ public final class PromiseTest {
             for (int mark = 0; mark < 4; mark++) {
                 x.mark(mark, false);
             }
-            Check.due("assize: plain", Check.assize(x, even(3) + cases(0, 1, 2, 3)), 0);
+            Check.due("assize: plain", Check.assize(x, Texts.even(3) + Texts.cases(0, 1, 2, 3)), 0);
             Check.due("assize: chairs by numbers", x.judge(0, 2) + 10 * x.judge(1, 2) + 100 * x.judge(2, 2), 210);
             Check.due("assize: deals 1", x.gets(0), 3);
             for (int mark = 0; mark < 4; mark++) {
@@ -235,12 +217,12 @@ public final class PromiseTest {
         assizeFault(two + "chairs b c;chairs c b", 3, "b");
         assizeFault("chairs a b;judge a plain leans 1;judge b plain leans 1;", 2, "a b");
         Check.due("every two once", Check.assize(new SwapAssize(), two + "chairs a b;chairs c b;chairs a c;"), 0);
-        assizeFault(even(7) + "judge", 5, "judge");
-        assizeFault(cases(0, 1, 2, 3, 4, 5, 6, 7) + "case", 5, "case");
+        assizeFault(Texts.even(7) + "judge", 5, "judge");
+        assizeFault(Texts.cases(0, 1, 2, 3, 4, 5, 6, 7) + "case", 5, "case");
         assizeFault("deals 1;deals", 3, "deals");
-        assizeFault(even(7) + "judgee", 1, "judgee");
+        assizeFault(Texts.even(7) + "judgee", 1, "judgee");
         assizeFault(two + "chairs a b judge e plain leans 1;", 1, "judge");
-        StringBuilder pairs = new StringBuilder(even(7));
+        StringBuilder pairs = new StringBuilder(Texts.even(7));
         for (char one = 'a'; one <= 'g'; one++) {
             for (char other = 'g'; other > one; other--) {
                 pairs.append("chairs j").append(one).append(" j").append(other).append(";");
@@ -281,7 +263,7 @@ public final class PromiseTest {
 
     /** One day of two cases: an even number of places leaves them their own. */
     private static void law(String e, boolean odd) {
-        SwapAssize x = Check.of(even(2) + cases(0, 3, 5) + "deals " + e + ";");
+        SwapAssize x = Check.of(Texts.even(2) + Texts.cases(0, 3, 5) + "deals " + e + ";");
         Check.due("law " + e, x.own(0), odd ? 0 : 3);
     }
 
@@ -332,14 +314,14 @@ public final class PromiseTest {
 
     /** The greatest number of places from the last of three is one place ahead: 2147483647 = 1 mod 3. */
     private static void wrapsBeforePlaces() {
-        SwapAssize x = Check.of(even(3) + cases(0, 1, 2, 3) + "deals 256 * 256 * 256 * 128 - 1;");
+        SwapAssize x = Check.of(Texts.even(3) + Texts.cases(0, 1, 2, 3) + "deals 256 * 256 * 256 * 128 - 1;");
         Check.due("far places", x.gets(0) + 10 * x.gets(1) + 100 * x.gets(2), 213);
-        x = Check.of(even(3) + cases(0, 1, 2, 3) + "deals 256 * 256 * 256 * 128;");
+        x = Check.of(Texts.even(3) + Texts.cases(0, 1, 2, 3) + "deals 256 * 256 * 256 * 128;");
         Check.due("far ahead: -2147483648 = 1 mod 3", x.gets(0) + 10 * x.gets(1) + 100 * x.gets(2), 213);
     }
 
     private static void deals(String e, int... gets) {
-        SwapAssize x = Check.of(even(5) + cases(0, 1, 2, 3, 4, 5) + "deals " + e + ";");
+        SwapAssize x = Check.of(Texts.even(5) + Texts.cases(0, 1, 2, 3, 4, 5) + "deals " + e + ";");
         for (int n = 0; n < gets.length; n++) {
             Check.due("deals " + e + ": gets(" + n + ")", x.gets(n), gets[n]);
         }
@@ -358,7 +340,7 @@ public final class PromiseTest {
         deals("nth = 4", 1, 2, 3, 4, 5);
         deals("nth * 2", 1, 3, 5, 2, 4);
         deals("nth * nth", 1, 3, 2, 4, 5);
-        SwapAssize x = Check.of(even(3) + cases(0, 1, 2, 3));
+        SwapAssize x = Check.of(Texts.even(3) + Texts.cases(0, 1, 2, 3));
         Check.due("without deals: 1", x.gets(0) + 10 * x.gets(1) + 100 * x.gets(2), 213);
     }
 
@@ -436,7 +418,7 @@ public final class PromiseTest {
         Check.due("trial what -1", x.trial(2, -1), -2);
         Check.due("trial(6)", x.trial(6, 0), -2);
         Check.due("trial(-1)", x.trial(-1, 0), -2);
-        x = Check.of(even(1) + cases(0, 5, 6));
+        x = Check.of(Texts.even(1) + Texts.cases(0, 5, 6));
         Check.due("trial: nobody hears it", x.trial(1, 3), NONE);
     }
 
@@ -450,7 +432,7 @@ public final class PromiseTest {
             Check.due("day " + n + ": next", x.count(2), (n + 1) % 4);
             Check.due("day " + n + ": rounds", x.count(3), (n + 1) / 4);
         }
-        x = Check.of(even(2) + cases(0, 5, 6, 7));
+        x = Check.of(Texts.even(2) + Texts.cases(0, 5, 6, 7));
         Check.due("day: the last is heard by nobody", x.day(), 3);
         Check.due("day: all stays with it", x.trial(2, 2), 0);
         Check.due("day: first", x.trial(0, 2), 6);
@@ -485,7 +467,7 @@ public final class PromiseTest {
         Check.due("plead for -1", x.plead(0, -1), NONE);
         Check.due("plead: others are nothing", x.count(8), 3);
         Check.due("plead: its day", x.trial(5, 1), 3);
-        x = Check.of(even(7) + cases(0, 1, 2, 3, 4, 5, 6, 7));
+        x = Check.of(Texts.even(7) + Texts.cases(0, 1, 2, 3, 4, 5, 6, 7));
         Check.due("plead: the seventh", x.plead(6, 2), 0);
         Check.due("plead: the seventh's day", x.trial(6, 1), 2);
         Check.due("lean: the seventh", x.lean(6, 2), 10);
@@ -573,7 +555,7 @@ public final class PromiseTest {
         Check.due("judged: together", x.judged(2), 35 + 24 + 2 + 0 + (4 + 22 + 10));
         Check.due("judged: what 3", x.judged(3), -2);
         Check.due("judged: what -1", x.judged(-1), -2);
-        x = Check.of(even(2) + "case a guilt 19 on 0;case b guilt 3 on 1;case c guilt 20 on 1;deals today;");
+        x = Check.of(Texts.even(2) + "case a guilt 19 on 0;case b guilt 3 on 1;case c guilt 20 on 1;deals today;");
         Check.term(x, "day;day;plead b 0;day;day;day;");
         Check.due("judged: 20 is so much", x.judged(0), 1);
         Check.due("judged: own beside another", x.judged(1), 5);
@@ -641,7 +623,7 @@ public final class PromiseTest {
         Check.due("gets: others", x.gets(6), NONE);
         Check.due("gets: others", x.gets(-1), NONE);
         // day 0 gives 1 + 2, so that of day 1 is dealt by 3, of day 0 then by 3 + 4 + 6 + 1
-        x = Check.of(even(3) + cases(0, 1, 2) + cases(1, 4, 6, 1) + "deals grief;");
+        x = Check.of(Texts.even(3) + Texts.cases(0, 1, 2) + Texts.cases(1, 4, 6, 1) + "deals grief;");
         Check.due("gets by grief then", x.gets(2), 4);
         Check.due("gets by no grief", x.gets(0), 1);
         x.day();
@@ -652,7 +634,7 @@ public final class PromiseTest {
         Check.due("from by grief 3 of two", x.from(2), 1);
         Check.due("gets by grief 14", x.gets(0), 1);
         Check.due("nothing is held by asking", x.count(2) * 100 + x.count(4), 103);
-        x = Check.of(even(1) + cases(2, 1, 2));
+        x = Check.of(Texts.even(1) + Texts.cases(2, 1, 2));
         Check.due("from: heard by nobody", x.from(1), NONE);
         Check.due("gets: heard by nobody", x.gets(1), NONE);
     }
@@ -668,20 +650,20 @@ public final class PromiseTest {
         Check.due("best(6)", x.best(6), NONE);
         Check.due("best(-1)", x.best(-1), NONE);
         Check.due("best: nothing is pleaded", x.count(8), 0);
-        x = Check.of(even(1) + "case a guilt 3 on 1;case b guilt 2 on 0;");
+        x = Check.of(Texts.even(1) + "case a guilt 3 on 1;case b guilt 2 on 0;");
         Check.due("best: not heard is 0", x.best(1), 1);
         Check.due("best: heard alone", x.best(0), 0);
-        x = Check.of(even(1) + "case a guilt 3 on 1;case b guilt 1 on 0;");
+        x = Check.of(Texts.even(1) + "case a guilt 3 on 1;case b guilt 1 on 0;");
         Check.due("best: 0 is less than 1", x.best(1), 1);
-        x = Check.of(cases(0, 1, 2));
+        x = Check.of(Texts.cases(0, 1, 2));
         Check.due("best: no judges", x.best(1), 0);
         // by 0 places a keeps 5 on day 0; from day 1 on, day 0's grief 3 makes it b's 3 where b is
-        x = Check.of(even(2) + "case a guilt 5 on 0;case b guilt 3 on 1;case c guilt 3 on 0;deals grief;");
+        x = Check.of(Texts.even(2) + "case a guilt 5 on 0;case b guilt 3 on 1;case c guilt 3 on 0;deals grief;");
         Check.due("best: by grief then", x.best(0), 1);
     }
 
     private static void plan() {
-        SwapAssize x = Check.of(even(2) + cases(0, 5, 7, 9));
+        SwapAssize x = Check.of(Texts.even(2) + Texts.cases(0, 5, 7, 9));
         Check.due("plan: the third is heard by nobody", x.plan(NONE), 12);
         Check.due("plan(0)", x.plan(0), 0);
         Check.due("plan(1)", x.plan(1), 0);
@@ -689,7 +671,7 @@ public final class PromiseTest {
         Check.due("plan(3)", x.plan(3), -2);
         Check.due("plan(-2)", x.plan(-2), -2);
         // the first gives 2 more than guilt, the second 2 less: two pairs
-        x = Check.of("judge a plain leans 12;judge b plain leans 8;judge c plain leans 20;" + cases(3, 5, 5, 5, 5));
+        x = Check.of("judge a plain leans 12;judge b plain leans 8;judge c plain leans 20;" + Texts.cases(3, 5, 5, 5, 5));
         Check.due("plan: two pairs", x.plan(NONE), 20);
         Check.due("plan: first row", x.plan(0) * 1000 + x.plan(1) * 100 + x.plan(2) * 10 + x.plan(3), 11);
         x.day();
@@ -700,28 +682,28 @@ public final class PromiseTest {
             + "case w guilt 20 on 0;case x guilt 0 on 0;case y guilt 20 on 0;case z guilt 2 on 0;");
         Check.due("plan: behind one", x.plan(NONE), 32);
         Check.due("plan: days", x.plan(0) * 1000 + x.plan(1) * 100 + x.plan(2) * 10 + x.plan(3), 102);
-        x = Check.of(cases(1, 3));
+        x = Check.of(Texts.cases(1, 3));
         Check.due("plan: no judges", x.plan(NONE), 0);
         Check.due("plan: no judges, day", x.plan(0), 0);
     }
 
     private static void lightest() {
-        SwapAssize x = Check.of(even(7) + cases(0, 0, 20, 1, 19, 2) + cases(1, 4) + cases(2, 9));
+        SwapAssize x = Check.of(Texts.even(7) + Texts.cases(0, 0, 20, 1, 19, 2) + Texts.cases(1, 4) + Texts.cases(2, 9));
         // 0 1 2 and 19 20: 2 apart
         Check.due("lightest of five", x.lightest(0), 2);
         Check.due("lightest of one", x.lightest(1), NONE);
         Check.due("lightest of none", x.lightest(3), NONE);
         Check.due("lightest of 4", x.lightest(4), NONE);
         Check.due("lightest of -1", x.lightest(-1), NONE);
-        x = Check.of(even(7) + cases(0, 20, 0, 11, 1, 10, 19) + cases(2, 9));
+        x = Check.of(Texts.even(7) + Texts.cases(0, 20, 0, 11, 1, 10, 19) + Texts.cases(2, 9));
         Check.due("lightest of pairs", x.lightest(0), 1);
-        x = Check.of(even(7) + cases(3, 20, 10, 0));
+        x = Check.of(Texts.even(7) + Texts.cases(3, 20, 10, 0));
         Check.due("lightest of three", x.lightest(3), 20);
-        x = Check.of(even(7) + cases(3, 9, 9, 9, 9, 9, 9, 9));
+        x = Check.of(Texts.even(7) + Texts.cases(3, 9, 9, 9, 9, 9, 9, 9));
         Check.due("lightest: equal ones", x.lightest(3), 0);
-        x = Check.of(even(7) + cases(3, 0, 3, 6, 9, 12, 15, 20));
+        x = Check.of(Texts.even(7) + Texts.cases(3, 0, 3, 6, 9, 12, 15, 20));
         Check.due("lightest of seven", x.lightest(3), 6);
-        x = Check.of(even(2) + cases(3, 0, 3, 20));
+        x = Check.of(Texts.even(2) + Texts.cases(3, 0, 3, 20));
         Check.due("lightest: of those heard", x.lightest(3), 3);
     }
 
@@ -733,7 +715,7 @@ public final class PromiseTest {
         Check.due("own: none is heard", x.own(3), 0);
         Check.due("own(4)", x.own(4), NONE);
         Check.due("own(-1)", x.own(-1), NONE);
-        x = Check.of(even(4) + cases(0, 1, 1, 1, 1) + "deals nth * 2;");
+        x = Check.of(Texts.even(4) + Texts.cases(0, 1, 1, 1, 1) + "deals nth * 2;");
         Check.due("own: not by how much it is", x.own(0), 5);
     }
 
@@ -791,21 +773,21 @@ public final class PromiseTest {
         x.plead(4, 2);
         // 6 + 10; 10; 17 + 0; 22
         Check.due("heavy: 22", x.heavy(), 3);
-        x = Check.of(even(1) + "case a guilt 4 on 2;case b guilt 4 on 3;case c guilt 9 on 3;");
+        x = Check.of(Texts.even(1) + "case a guilt 4 on 2;case b guilt 4 on 3;case c guilt 9 on 3;");
         Check.due("heavy: the first", x.heavy(), 2);
         x.lean(0, 0);
         Check.due("heavy: nothing is given", x.heavy(), 0);
     }
 
     private static void backAndLoops() {
-        SwapAssize x = Check.of(even(7) + cases(0, 1, 2, 3, 4, 5, 6, 7) + "deals (nth < 2) * (1 - 2 * nth) + (nth = 2 or nth = 3 or nth = 4 or nth = 5) - 4 * (nth = 6);");
+        SwapAssize x = Check.of(Texts.even(7) + Texts.cases(0, 1, 2, 3, 4, 5, 6, 7) + "deals (nth < 2) * (1 - 2 * nth) + (nth = 2 or nth = 3 or nth = 4 or nth = 5) - 4 * (nth = 6);");
         // 0 and 1 change; 2 to 6 go round
         Check.due("back: 2 and 5", x.back(0), 10);
         Check.due("loops: 2 and 5", x.loops(0), 2);
-        x = Check.of(even(7) + cases(0, 1, 2, 3, 4, 5, 6, 7) + "deals (nth < 2) + (nth < 6 and 2 < nth) - 2 * (nth = 2) - 3 * (nth = 6);");
+        x = Check.of(Texts.even(7) + Texts.cases(0, 1, 2, 3, 4, 5, 6, 7) + "deals (nth < 2) + (nth < 6 and 2 < nth) - 2 * (nth = 2) - 3 * (nth = 6);");
         Check.due("back: 3 and 4", x.back(0), 12);
         Check.due("loops: 3 and 4", x.loops(0), 2);
-        x = Check.of(even(7) + cases(0, 1, 2, 3, 4) + cases(1, 1, 2, 3) + "deals today;");
+        x = Check.of(Texts.even(7) + Texts.cases(0, 1, 2, 3, 4) + Texts.cases(1, 1, 2, 3) + "deals today;");
         Check.due("back: own", x.back(0), 1);
         Check.due("loops: own", x.loops(0), 4);
         Check.due("back: three", x.back(1), 3);
@@ -819,7 +801,7 @@ public final class PromiseTest {
         Check.due("loops(4)", x.loops(4), NONE);
         Check.due("loops(-1)", x.loops(-1), NONE);
         // 2 + 1 is had ahead of day 1
-        x = Check.of(even(4) + cases(0, 2, 1) + cases(1, 0, 0, 0, 0) + "deals grief * today;");
+        x = Check.of(Texts.even(4) + Texts.cases(0, 2, 1) + Texts.cases(1, 0, 0, 0, 0) + "deals grief * today;");
         Check.due("back: the next time", x.back(1), 4);
         x.lean(0, 9);
         Check.due("back: 2 places", x.back(1), 2);
@@ -843,17 +825,17 @@ public final class PromiseTest {
         x = Check.of("");
         Check.due("uneven: no cases", x.uneven(), 0);
         Check.due("lucky: no cases", x.lucky(), NONE);
-        x = Check.of(even(2) + cases(0, 5, 5));
+        x = Check.of(Texts.even(2) + Texts.cases(0, 5, 5));
         x.day();
         Check.due("uneven: both 5", x.uneven(), 0);
         Check.due("lucky: the first of both", x.lucky(), 0);
-        x = Check.of(even(2) + cases(0, 5, 9));
+        x = Check.of(Texts.even(2) + Texts.cases(0, 5, 9));
         x.day();
         Check.due("uneven: the first had more", x.uneven(), 4);
         x.plead(0, 1);
         x.day();
         Check.due("uneven: the first had 14", x.uneven(), 9);
-        x = Check.of(even(1) + cases(0, 5));
+        x = Check.of(Texts.even(1) + Texts.cases(0, 5));
         x.day();
         Check.due("uneven: of one", x.uneven(), 0);
     }
@@ -898,31 +880,31 @@ public final class PromiseTest {
         x.plead(3, 3);
         Check.due("shifts: boot alone gets ann's", x.shifts(), 0);
         Check.due("ask: none is left", x.ask(), NONE);
-        x = Check.of(even(1) + cases(0, 1, 2));
+        x = Check.of(Texts.even(1) + Texts.cases(0, 1, 2));
         Check.due("ask: alone parts none", x.ask(), NONE);
         x.see(1, 0, false);
         Check.due("shifts: heard by nobody got none", x.shifts(), 127);
         x.see(1, 0, true);
         Check.due("shifts: heard by nobody got one", x.shifts(), 0);
-        x = Check.of(even(7) + cases(0, 1, 2, 3, 4, 5, 6, 7));
+        x = Check.of(Texts.even(7) + Texts.cases(0, 1, 2, 3, 4, 5, 6, 7));
         for (int judge = 0; judge < 7; judge++) {
-            SwapAssize y = Check.of(even(7) + cases(0, 1, 2, 3, 4, 5, 6, 7));
+            SwapAssize y = Check.of(Texts.even(7) + Texts.cases(0, 1, 2, 3, 4, 5, 6, 7));
             y.see(3, judge, true);
             Check.due("shifts from " + judge, y.shifts(), 1 << (3 - judge + 7) % 7);
         }
         x.see(0, 0, false);
         Check.due("shifts: not 0", x.shifts(), 126);
         Check.due("ask: 1 of 6", x.ask(), 1);
-        x = Check.of(even(2) + cases(2, 1, 1) + cases(3, 1));
+        x = Check.of(Texts.even(2) + Texts.cases(2, 1, 1) + Texts.cases(3, 1));
         Check.due("ask: 4 and 3", x.ask(), 0);
-        x = Check.of(even(2) + cases(2, 1) + "case d guilt 1 on 0;case e guilt 2 on 1;case f guilt 2 on 1;");
+        x = Check.of(Texts.even(2) + Texts.cases(2, 1) + "case d guilt 1 on 0;case e guilt 2 on 1;case f guilt 2 on 1;");
         Check.due("ask: the first two part none", x.ask(), 8 * 2);
     }
 
     private static void strange() {
         int[] want = {1, 0, 1, 2, 9, 44, 265, 1854};
         for (int many = 0; many <= 7; many++) {
-            SwapAssize x = Check.of(even(many) + cases(1, 1, 2, 3, 4, 5, 6, 7));
+            SwapAssize x = Check.of(Texts.even(many) + Texts.cases(1, 1, 2, 3, 4, 5, 6, 7));
             Check.due("strange of " + many, x.strange(1), want[many]);
             Check.due("strange of none", x.strange(0), 1);
         }
@@ -940,7 +922,7 @@ public final class PromiseTest {
         Check.due("swap: ann and bea", x.swap(), 1);
         x.change(0, 1);
         Check.due("swap: none is better", x.swap(), NONE);
-        x = Check.of("judge a plain leans 12;judge b plain leans 11;judge c plain leans 11;" + cases(0, 4));
+        x = Check.of("judge a plain leans 12;judge b plain leans 11;judge c plain leans 11;" + Texts.cases(0, 4));
         Check.due("swap: the first pair", x.swap(), 1);
         x.lean(2, 10);
         Check.due("swap: the least", x.swap(), 2);
@@ -968,9 +950,9 @@ public final class PromiseTest {
         }
         Check.due("mercy(6)", x.mercy(6), NONE);
         Check.due("mercy(-1)", x.mercy(-1), NONE);
-        Check.due("mercy: no judges", Check.of(cases(0, 1)).mercy(0), NONE);
-        Check.due("harsh: no judges", Check.of(cases(0, 1)).harsh(), NONE);
-        Check.due("harsh: no cases", Check.of(even(3)).harsh(), 0);
+        Check.due("mercy: no judges", Check.of(Texts.cases(0, 1)).mercy(0), NONE);
+        Check.due("harsh: no judges", Check.of(Texts.cases(0, 1)).harsh(), NONE);
+        Check.due("harsh: no cases", Check.of(Texts.even(3)).harsh(), 0);
     }
 
     private static void crowdAndIdle() {
@@ -991,7 +973,7 @@ public final class PromiseTest {
         }
         Check.due("crowd: also who is not heard", x.crowd(3), 63);
         Check.due("idle: nobody", x.idle(), 0);
-        Check.due("idle: all", Check.of(even(7)).idle(), 127);
+        Check.due("idle: all", Check.of(Texts.even(7)).idle(), 127);
     }
 
     private static void spared() {
@@ -1003,9 +985,9 @@ public final class PromiseTest {
         // day 0: 6 15 10; day 1: 10 10
         Check.due("spared: not of equal ones", x.spared(), 2);
         // ahead of day 1 grief is 3
-        x = Check.of(even(2) + cases(0, 2, 1) + cases(1, 4, 5) + cases(2, 7, 6) + "deals grief;");
+        x = Check.of(Texts.even(2) + Texts.cases(0, 2, 1) + Texts.cases(1, 4, 5) + Texts.cases(2, 7, 6) + "deals grief;");
         Check.due("spared: by grief then", x.spared(), 8);
-        x = Check.of(even(3) + cases(0, 3, 2, 1));
+        x = Check.of(Texts.even(3) + Texts.cases(0, 3, 2, 1));
         Check.due("spared: the first, not the second", x.spared(), 1);
     }
 
@@ -1028,12 +1010,12 @@ public final class PromiseTest {
         Check.due("chance by 11", x.chance(0, 10, 11), NONE);
         Check.due("chance(6)", x.chance(6, 10, 5), NONE);
         Check.due("chance(-1)", x.chance(-1, 10, 5), NONE);
-        x = Check.of(even(1) + cases(0, 5, 6));
+        x = Check.of(Texts.even(1) + Texts.cases(0, 5, 6));
         Check.due("chance: nobody hears it", x.chance(1, 1, 5), NONE);
-        x = Check.of(even(2) + cases(0, 2, 1) + cases(1, 4, 5) + "deals grief;");
+        x = Check.of(Texts.even(2) + Texts.cases(0, 2, 1) + Texts.cases(1, 4, 5) + "deals grief;");
         Check.due("chance: as it is dealt then", x.chance(2, 5, 10), 1000000);
         Check.due("chance: 3 of 7 else", x.chance(2, 5, 0), 428571);
-        x = Check.of("judge a plain leans 0;" + cases(0, 0));
+        x = Check.of("judge a plain leans 0;" + Texts.cases(0, 0));
         Check.due("chance: gets 0", x.chance(0, 1, 5), 0);
     }
 
@@ -1108,14 +1090,14 @@ public final class PromiseTest {
         Check.due("terms: 100 days", x.terms(0, 100, 0), -2);
         Check.due("terms: what 3", x.terms(0, 1, 3), -2);
         Check.due("terms: what -1", x.terms(0, 1, -1), -2);
-        x = Check.of(even(1) + cases(0, 5));
+        x = Check.of(Texts.even(1) + Texts.cases(0, 5));
         Check.due("terms: one of each pleads for 3", x.terms(1, 4, 0), 10);
         Check.due("terms: the most is the first's", x.terms(1, 4, 1), 10);
         x = Check.of("judge a plain leans 3;judge b plain leans 3;");
         Check.due("terms: no cases, much", x.terms(1, 99, 0), 0);
         Check.due("terms: no cases, most", x.terms(1, 99, 1), 0);
         Check.due("terms: no cases, no draws", x.terms(1, 99, 2), 0);
-        x = Check.of(cases(0, 1));
+        x = Check.of(Texts.cases(0, 1));
         Check.due("terms: no judges", x.terms(1, 99, 2), NONE);
         Check.due("terms: no judges", x.terms(1, 99, 0), 0);
     }
@@ -1189,7 +1171,7 @@ public final class PromiseTest {
         }
         Check.due("count(10)", x.count(10), NONE);
         Check.due("count(-1)", x.count(-1), NONE);
-        x = Check.of(even(2) + cases(0, 1, 2, 3));
+        x = Check.of(Texts.even(2) + Texts.cases(0, 1, 2, 3));
         Check.due("count: heard, not up", x.count(5), 3);
     }
 }
