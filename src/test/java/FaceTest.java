@@ -47,6 +47,8 @@ public final class FaceTest {
         for (Method method : type.getDeclaredMethods()) {
             if (Modifier.isPublic(method.getModifiers())) {
                 Check.due("not static: " + method, Modifier.isStatic(method.getModifiers()), false);
+                String thrown = method.getName().equals("rests") ? "[class java.util.NoSuchElementException]" : "[]";
+                Check.due("thrown by " + method, Arrays.toString(method.getExceptionTypes()), thrown);
                 seen.add(told(method));
             } else {
                 Check.due("private: " + method, Modifier.isPrivate(method.getModifiers()), true);
@@ -59,6 +61,7 @@ public final class FaceTest {
             Check.due("field " + field, Modifier.isPrivate(field.getModifiers()), !constant);
             Check.due("field " + field, constant && !Modifier.isPublic(field.getModifiers()), false);
         }
+        Check.due("NONE", SwapAssize.NONE, -1);
         Constructor<?>[] constructors = type.getDeclaredConstructors();
         Check.due("one constructor", constructors.length, 1);
         Check.due("a public one of nothing", constructors[0].getParameterCount() == 0 && Modifier.isPublic(constructors[0].getModifiers()), true);
